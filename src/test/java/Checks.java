@@ -1,0 +1,48 @@
+/** Counts the answers that are not the ones that are due. */
+final class Checks {
+    private static final int MOST_TOLD = 20;
+
+    private final String name;
+    private int made;
+    private int wrong;
+
+    Checks(String name) {
+        this.name = name;
+    }
+
+    void due(String call, long got, long want) {
+        made++;
+        if (got != want) {
+            tellWrong(call + " answered " + got + ", due is " + want);
+        }
+    }
+
+    void due(String call, boolean got, boolean want) {
+        due(call, got ? 1 : 0, want ? 1 : 0);
+    }
+
+    void hold(String claim, boolean holds) {
+        made++;
+        if (!holds) {
+            tellWrong("does not hold: " + claim);
+        }
+    }
+
+    private void tellWrong(String what) {
+        wrong++;
+        if (wrong <= MOST_TOLD) {
+            System.out.println("  " + name + ": " + what);
+        }
+    }
+
+    int wrong() {
+        return wrong;
+    }
+
+    void end() {
+        System.out.println("  " + name + ": " + made + " checks, " + wrong + " wrong");
+        if (wrong != 0 || made == 0) {
+            System.exit(1);
+        }
+    }
+}
