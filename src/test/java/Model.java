@@ -107,16 +107,19 @@ final class Model {
         if (!top.snaps.isEmpty()) {
             return TAKEN;
         }
-        // The same on a copy with endless room tells how many clusters are taken.
-        Disk trial = top.below.copy();
-        trial.clusters = 4096;
-        int takings = putInto(trial)[0];
-        if (!top.below.hasRoom(takings)) {
+        if (!top.below.hasRoom(commitTakings())) {
             return FULL;
         }
         int blocks = putInto(top.below)[1];
         top = top.below;
         return blocks;
+    }
+
+    /** The same on a copy with endless room tells how many clusters are taken. */
+    int commitTakings() {
+        Disk trial = top.below.copy();
+        trial.clusters = 4096;
+        return putInto(trial)[0];
     }
 
     /** Puts the top image into another; answers the clusters taken and the blocks put. */

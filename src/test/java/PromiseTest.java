@@ -28,6 +28,8 @@ public final class PromiseTest {
         test.commitRefused();
         test.commitWithoutRoom();
         test.commitFillsTheLastCluster();
+        test.commitCountsCountClusters();
+        test.commitIntoFullFile();
         test.growAndSize();
         test.images();
         test.used();
@@ -507,6 +509,50 @@ public final class PromiseTest {
         due("read(0)", x.read(0), 3);
         due("read(232)", x.read(232), 2);
         due("read(8)", x.read(8), 0);
+    }
+
+    /** Below stands a new file with a snapshot: 58 free, of which 7 become count clusters. */
+    private void commitCountsCountClusters() {
+        LayeredImage x = new LayeredImage(64);
+        x.snapshot(1);
+        x.overlay();
+        for (int n = 0; n < 44; n++) {
+            due("write", x.write(64 * (n % 8) + 8 * (n / 8), n), n < 8 ? 2 : 1);
+        }
+        due("commit() of 8 leaves and 44 clusters", x.commit(), FULL);
+        x.discard(0);
+        due("commit() of 8 leaves and 43 clusters", x.commit(), 44);
+        due("used()", x.used(), 64);
+        due("read(0)", x.read(0), 0);
+        due("read(344)", x.read(344), 29);
+    }
+
+    /** A full file with a snapshot, all its leaves shared, none for the last eight blocks. */
+    private LayeredImage full() {
+        LayeredImage x = new LayeredImage(64);
+        for (int n = 0; n < 44; n++) {
+            x.write(64 * (n % 7) + 8 * (n / 7), 1);
+        }
+        x.snapshot(1);
+        due("used()", x.used(), 64);
+        x.overlay();
+        return x;
+    }
+
+    private void commitIntoFullFile() {
+        LayeredImage x = full();
+        due("commit() of nothing", x.commit(), 0);
+        x = full();
+        x.discard(56);
+        x.discard(7);
+        due("commit() of ZERO blocks that are absent below", x.commit(), 2);
+        due("word(0, 31): no leaf for them", x.word(0, 31), 0);
+        x = full();
+        x.discard(0);
+        due("commit() of a ZERO block in a shared leaf", x.commit(), FULL);
+        x = full();
+        x.write(0, 1);
+        due("commit() of a block in a shared leaf", x.commit(), FULL);
     }
 
     private void growAndSize() {

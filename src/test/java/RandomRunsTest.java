@@ -11,11 +11,17 @@ public final class RandomRunsTest {
     private final Checks checks = new Checks("RandomRunsTest");
     // How often each answer came: answers -4 .. 4 of each call at 4 + answer.
     private final int[][] answers = new int[12][9];
+    // Commits that just found room, and that just found none.
+    private int justRoom;
+    private int justNoRoom;
 
     public static void main(String[] args) {
         RandomRunsTest test = new RandomRunsTest();
         for (int seed = 1; seed <= 160; seed++) {
             test.run(seed);
+        }
+        for (int seed = 1; seed <= 1500; seed++) {
+            test.commitNearTheEnd(seed);
         }
         test.checkThatAllWasMet();
         test.checks.end();
@@ -126,7 +132,50 @@ public final class RandomRunsTest {
         }
     }
 
+    /** Fills a file to some point, changes blocks above it, and puts them into it. */
+    private void commitNearTheEnd(int seed) {
+        Dice dice = new Dice(seed);
+        LayeredImage image = new LayeredImage(64);
+        Model model = new Model(64);
+        if (dice.below(3) == 0) {
+            due("overlay", image.overlay(), model.overlay());
+        }
+        int left = dice.of(2, 4, 6, 10, 14, 20, 30, 45);
+        for (int i = 0; i < 200 && model.top.hasRoom(left + 1); i++) {
+            int address = dice.below(512);
+            if (dice.below(20) == 0) {
+                due("snapshot", image.snapshot(i), model.snapshot(i));
+            } else if (dice.below(12) == 0) {
+                due("discard", image.discard(address / 8), model.discard(address / 8));
+            } else {
+                due("write", image.write(address, i), model.write(address, i));
+            }
+        }
+        due("overlay", image.overlay(), model.overlay());
+        int goal = left + dice.below(3) - 1;
+        for (int i = 0; i < 200 && model.commitTakings() < goal; i++) {
+            int address = dice.below(512);
+            if (dice.below(3) == 0) {
+                due("discard", image.discard(address / 8), model.discard(address / 8));
+            } else {
+                due("write", image.write(address, -i), model.write(address, -i));
+            }
+        }
+        int takings = model.commitTakings();
+        boolean room = model.top.below.hasRoom(takings);
+        justRoom += room && !model.top.below.hasRoom(takings + 1) ? 1 : 0;
+        justNoRoom += !room && model.top.below.hasRoom(takings - 1) ? 1 : 0;
+        due("commit", image.commit(), model.commit());
+        compare("seed " + seed + ", commit", dice, image, model);
+    }
+
+    private void due(String name, int got, int want) {
+        checks.due(name, got, want);
+    }
+
     private void checkThatAllWasMet() {
+        checks.hold("some commits just find room", justRoom > 50);
+        checks.hold("some commits just find none", justNoRoom > 50);
         met("write", 0, -2, -1, 0, 1, 2);
         met("discard", 1, -2, -1, 0, 1);
         met("snapshot", 2, -4, -3, -2, 0);
