@@ -447,7 +447,8 @@ public final class LayeredImage {
         // A count that changes is told by words in many tables: all are told anew.
         private void tellFlags() {
             tellFlagsBelow(activeTable());
-            for (int i = 0; i < snapshotCount(); i++) {
+            int snapshots = snapshotCount();
+            for (int i = 0; i < snapshots; i++) {
                 tellFlagsBelow(snapshotTable(i));
             }
         }
@@ -485,7 +486,8 @@ public final class LayeredImage {
         }
 
         int snapshotNamed(int name) {
-            for (int i = 0; i < snapshotCount(); i++) {
+            int snapshots = snapshotCount();
+            for (int i = 0; i < snapshots; i++) {
                 if (file.at(snapshotList(), 2 * i + 1) == name) {
                     return i;
                 }

@@ -3,11 +3,17 @@ final class Checks {
     private static final int MOST_TOLD = 20;
 
     private final String name;
+    private final boolean aloud;
     private int made;
     private int wrong;
 
     Checks(String name) {
+        this(name, true);
+    }
+
+    Checks(String name, boolean aloud) {
         this.name = name;
+        this.aloud = aloud;
     }
 
     void due(String call, long got, long want) {
@@ -30,7 +36,7 @@ final class Checks {
 
     private void tellWrong(String what) {
         wrong++;
-        if (wrong <= MOST_TOLD) {
+        if (aloud && wrong <= MOST_TOLD) {
             System.out.println("  " + name + ": " + what);
         }
     }
