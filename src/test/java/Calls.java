@@ -1,10 +1,18 @@
-/** A new object whose calls are told and counted: no more than 512 of them are promised. */
+import java.util.ArrayList;
+import java.util.List;
+import java.util.function.ToLongFunction;
+
+/**
+ * A new object whose calls are told and counted: what the document promises ends
+ * with the 512th. What its files hold then is read from others like it.
+ */
 final class Calls {
-    private static final int MOST_CALLS = 512;
+    static final int MOST_CALLS = 512;
 
     private final Checks checks;
     private final LayeredImage image;
     private final int size;
+    private final List<ToLongFunction<LayeredImage>> changes = new ArrayList<>();
     private int made;
 
     Calls(Checks checks, int size) {
@@ -24,8 +32,13 @@ final class Calls {
         return checks;
     }
 
+    /** How many calls more the object may be used for. */
+    int left() {
+        return MOST_CALLS - made;
+    }
+
     Answer write(int address, int value) {
-        return told("write(" + address + ", " + value + ")", image.write(address, value));
+        return change("write(" + address + ", " + value + ")", x -> x.write(address, value));
     }
 
     Answer read(int address) {
@@ -33,19 +46,19 @@ final class Calls {
     }
 
     Answer discard(int block) {
-        return told("discard(" + block + ")", image.discard(block));
+        return change("discard(" + block + ")", x -> x.discard(block));
     }
 
     Answer snapshot(int name) {
-        return told("snapshot(" + name + ")", image.snapshot(name));
+        return change("snapshot(" + name + ")", x -> x.snapshot(name));
     }
 
     Answer revert(int name) {
-        return told("revert(" + name + ")", image.revert(name));
+        return change("revert(" + name + ")", x -> x.revert(name));
     }
 
     Answer delete(int name) {
-        return told("delete(" + name + ")", image.delete(name));
+        return change("delete(" + name + ")", x -> x.delete(name));
     }
 
     Answer readOld(int name, int address) {
@@ -53,15 +66,15 @@ final class Calls {
     }
 
     Answer overlay() {
-        return told("overlay()", image.overlay());
+        return change("overlay()", x -> x.overlay());
     }
 
     Answer commit() {
-        return told("commit()", image.commit());
+        return change("commit()", x -> x.commit());
     }
 
     Answer grow(int to) {
-        return told("grow(" + to + ")", image.grow(to));
+        return change("grow(" + to + ")", x -> x.grow(to));
     }
 
     Answer size() {
@@ -81,12 +94,17 @@ final class Calls {
     }
 
     Answer stage(int p, int a, int b, int c, int d) {
-        return told("stage(" + p + ", " + a + ", " + b + ", " + c + ", " + d + ")",
-            image.stage(p, a, b, c, d) ? 1 : 0);
+        return change("stage(" + p + ", " + a + ", " + b + ", " + c + ", " + d + ")",
+            x -> x.stage(p, a, b, c, d) ? 1 : 0);
     }
 
     Answer load() {
-        return told("load()", image.load());
+        return change("load()", x -> x.load());
+    }
+
+    private Answer change(String call, ToLongFunction<LayeredImage> change) {
+        changes.add(change);
+        return told(call, change.applyAsLong(image));
     }
 
     private Answer told(String call, long got) {
@@ -100,6 +118,22 @@ final class Calls {
         for (int j = 0; j < 8; j++) {
             word(number, 8 * cluster + j).is(j < words.length ? words[j] : 0);
         }
+    }
+
+    /** All words of a file, from as many objects with the same changes as that asks for. */
+    int[] file(int number) {
+        int[] words = new int[512];
+        int part = Math.max(1, MOST_CALLS - changes.size());
+        for (int p = 0; p < 512; p += part) {
+            LayeredImage again = new LayeredImage(size);
+            for (ToLongFunction<LayeredImage> change : changes) {
+                change.applyAsLong(again);
+            }
+            for (int i = p; i < Math.min(512, p + part); i++) {
+                words[i] = again.word(number, i);
+            }
+        }
+        return words;
     }
 
     /** Puts all of a file on the stage: 128 calls. */

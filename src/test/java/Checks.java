@@ -1,3 +1,5 @@
+import java.util.Arrays;
+
 /** Counts the answers that are not the ones that are due. */
 final class Checks {
     private static final int MOST_TOLD = 20;
@@ -25,6 +27,12 @@ final class Checks {
 
     void due(String call, boolean got, boolean want) {
         due(call, got ? 1 : 0, want ? 1 : 0);
+    }
+
+    /** All words of two files, as one check. */
+    void same(String what, int[] got, int[] want) {
+        int p = Arrays.mismatch(got, want);
+        due(what + (p < 0 ? "" : ": word " + p), p < 0 ? 0 : got[p], p < 0 ? 0 : want[p]);
     }
 
     void hold(String claim, boolean holds) {

@@ -6,20 +6,6 @@ final class Files {
     private Files() {
     }
 
-    static void stage(LayeredImage image, int[] words) {
-        for (int p = 0; p < 128; p++) {
-            image.stage(p, words[4 * p], words[4 * p + 1], words[4 * p + 2], words[4 * p + 3]);
-        }
-    }
-
-    static int[] of(LayeredImage image) {
-        int[] words = new int[512];
-        for (int p = 0; p < 512; p++) {
-            words[p] = image.word(0, p);
-        }
-        return words;
-    }
-
     /** A file that a run could have made, or one with its clusters put elsewhere. */
     static int[] any(Dice dice) {
         Disk disk = built(dice);

@@ -106,16 +106,12 @@ final class LoadSentences extends Sentences {
             + "with this file, and the answer is 0; else nothing changes, and the answer is the "
             + "first of these that is wrong (the stage stays in both cases):");
         test("all 512 words of it are the file's then", checks -> {
-            int[] due = base();
-            for (int p = 0; p < 512; p += 256) {
-                Calls x = new Calls(checks, 64);
+            int[] words = file(checks, 64, 0, x -> {
                 x.write(511, 1).is(2);
-                x.stageAll(due);
+                x.stageAll(base());
                 x.load().is(0);
-                for (int i = p; i < p + 256; i++) {
-                    x.word(0, i).is(due[i]);
-                }
-            }
+            });
+            checks.same("the file", words, base());
         }).broken("void becomeLike(", "FILE_WORDS", "FILE_WORDS / 5");
         on("the chain of three becomes one image", 5, x -> {
             x.write(39, 6).is(2);
@@ -231,6 +227,23 @@ final class LoadSentences extends Sentences {
             x.load().is(0);
         }).broken("public int load(", "if (wrong == 0) {", "if (wrong == 0 || wrong == 6) {")
             .broken("public int load(", "return wrong;", "staged.format(1);\n        return wrong;");
+        test("nothing changes by any of the six, in any file", checks -> {
+            int[][] faults = {{0, 7000}, {3, 64}, {35, 7}, {16, 2}, {24, 28}, {511, 1}};
+            for (int i = 0; i < 6; i++) {
+                Calls x = new Calls(checks, 5);
+                x.write(3, 4).is(2);
+                x.snapshot(2).is(0);
+                x.overlay().is(2);
+                x.write(9, 5).is(2);
+                int[] top = x.file(0);
+                int[] below = x.file(1);
+                x.stageAll(base(faults[i]));
+                x.load().is(i + 1);
+                checks.same("the top file after " + (i + 1), x.file(0), top);
+                checks.same("the file below after " + (i + 1), x.file(1), below);
+                x.images().is(2);
+            }
+        }).broken("public int load(", "if (wrong == 0) {", "if (wrong == 0 || wrong == 4) {");
         on("nothing changes by a load that is wrong after one that was right", 5, x -> {
             x.stageAll(base());
             x.load().is(0);

@@ -8,6 +8,7 @@ public final class LoadTest {
 
     private final Checks checks = new Checks("LoadTest");
     private final int[] met = new int[7];
+    private final int[] untouched = new Calls(checks, 2).file(0);
 
     public static void main(String[] args) {
         LoadTest test = new LoadTest();
@@ -60,28 +61,26 @@ public final class LoadTest {
     }
 
     private void rightByHand() {
-        LayeredImage x = new LayeredImage(1);
+        Calls x = new Calls(checks, 1);
         int[] w = file();
         loads(x, w, 0);
-        checks.due("size()", x.size(), 12);
-        checks.due("used()", x.used(), 15);
-        checks.due("read(0)", x.read(0), 5);
-        checks.due("readOld(7, 0)", x.readOld(7, 0), 6);
-        checks.due("readOld(8, 8)", x.readOld(8, 8), 7);
-        checks.due("read(95)", x.read(95), 8);
-        for (int p = 0; p < 512; p++) {
-            checks.due("word(0, " + p + ")", x.word(0, p), w[p]);
-        }
+        due("size()", x.size(), 12);
+        due("used()", x.used(), 15);
+        due("read(0)", x.read(0), 5);
+        due("readOld(7, 0)", x.readOld(7, 0), 6);
+        due("readOld(8, 8)", x.readOld(8, 8), 7);
+        due("read(95)", x.read(95), 8);
+        checks.same("the file", x.file(0), w);
         // The active table leaves leaf 1 and block 11: clusters 15 and 17, counts in 16.
-        checks.due("write(95, 9)", x.write(95, 9), 2);
-        checks.due("word(0, 10): the new count cluster", x.word(0, 10), 16);
-        checks.due("word(0, 25)", x.word(0, 25), 61);
-        checks.due("word(0, 123)", x.word(0, 123), 69);
-        checks.due("word(0, 143)", x.word(0, 143), 9);
-        checks.due("delete(7)", x.delete(7), 0);
-        checks.due("word(0, 48): the leaf is one table's now", x.word(0, 48), 37);
-        checks.due("word(0, 49)", x.word(0, 49), 41);
-        checks.due("word(0, 83)", x.word(0, 83), 57);
+        due("write(95, 9)", x.write(95, 9), 2);
+        due("word(0, 10): the new count cluster", x.word(0, 10), 16);
+        due("word(0, 25)", x.word(0, 25), 61);
+        due("word(0, 123)", x.word(0, 123), 69);
+        due("word(0, 143)", x.word(0, 143), 9);
+        due("delete(7)", x.delete(7), 0);
+        due("word(0, 48): the leaf is one table's now", x.word(0, 48), 37);
+        due("word(0, 49)", x.word(0, 49), 41);
+        due("word(0, 83)", x.word(0, 83), 57);
         // A file with count clusters that count nothing, and without any block.
         int[] bare = new int[512];
         put(bare, 0, 7001, 1, 64, 62, 63);
@@ -89,18 +88,22 @@ public final class LoadTest {
         put(bare, 61, 1);
         put(bare, 60, 0, 0, 0, 0, 1, 1, 1, 1);
         loads(x, bare, 0);
-        checks.due("write(0, 1): the least clusters are free", x.write(0, 1), 2);
-        checks.due("word(0, 496)", x.word(0, 496), 5);
-        checks.due("word(0, 8)", x.word(0, 8), 9);
+        due("write(0, 1): the least clusters are free", x.write(0, 1), 2);
+        due("word(0, 496)", x.word(0, 496), 5);
+        due("word(0, 8)", x.word(0, 8), 9);
         put(bare, 63, 61, 59, 0, 0, 0, 0, 0, 60);
         put(bare, 60, 0, 0, 0, 1, 1, 1, 1, 1);
         loads(x, bare, 0);
-        checks.due("used()", x.used(), 6);
+        due("used()", x.used(), 6);
     }
 
-    private void loads(LayeredImage x, int[] words, int due) {
-        Files.stage(x, words);
-        checks.due("load()", x.load(), due);
+    private void due(String what, Calls.Answer got, long want) {
+        checks.due(what + ": " + got.call(), got.got(), want);
+    }
+
+    private void loads(Calls x, int[] words, int due) {
+        x.stageAll(words);
+        due("load()", x.load(), due);
         checks.due("the judge", Judge.firstWrong(words), due);
     }
 
@@ -110,15 +113,15 @@ public final class LoadTest {
         for (int i = 0; i < changes.length; i += 2) {
             words[changes[i]] = changes[i + 1];
         }
-        LayeredImage x = new LayeredImage(5);
+        Calls x = new Calls(checks, 5);
         x.write(3, 4);
-        Files.stage(x, words);
+        x.stageAll(words);
         String what = "load() with word " + changes[0] + " = " + changes[1];
-        checks.due(what, x.load(), due);
-        checks.due(what + " again", x.load(), due);
+        due(what, x.load(), due);
+        due(what + " again", x.load(), due);
         checks.due(what + ", by the judge", Judge.firstWrong(words), due);
-        checks.due(what + ", size()", x.size(), due == 0 ? words[2] : 5);
-        checks.due(what + ", read(3)", x.read(3), due == 0 ? words[91] : 4);
+        due(what + ", size()", x.size(), due == 0 ? words[2] : 5);
+        due(what + ", read(3)", x.read(3), due == 0 ? words[91] : 4);
     }
 
     private void header() {
@@ -263,11 +266,11 @@ public final class LoadTest {
 
     private void changed(Dice dice) {
         int[] right = Files.any(dice);
-        LayeredImage x = new LayeredImage(2);
+        Calls x = new Calls(checks, 2);
         x.write(0, 1);
         x.overlay();
-        Files.stage(x, right);
-        checks.due("load() of a right file", x.load(), 0);
+        x.stageAll(right);
+        due("load() of a right file", x.load(), 0);
         checks.due("the judge of a right file", Judge.firstWrong(right), 0);
         for (int i = 0; i < CHANGES; i++) {
             int[] words = right.clone();
@@ -280,18 +283,15 @@ public final class LoadTest {
     }
 
     private void judgeBoth(int[] words) {
-        LayeredImage x = new LayeredImage(2);
+        Calls x = new Calls(checks, 2);
         x.write(0, 1);
         x.overlay();
-        Files.stage(x, words);
+        x.stageAll(words);
         int due = Judge.firstWrong(words);
         met[due]++;
-        checks.due("load()", x.load(), due);
-        checks.due("images()", x.images(), due == 0 ? 1 : 2);
-        int[] after = due == 0 ? words : Files.of(new LayeredImage(2));
-        for (int p = 0; p < 512; p++) {
-            checks.due("word(0, " + p + ")", x.word(0, p), after[p]);
-        }
+        due("load()", x.load(), due);
+        due("images()", x.images(), due == 0 ? 1 : 2);
+        checks.same("the file", x.file(0), due == 0 ? words : untouched);
     }
 
     private static void change(Dice dice, int[] words) {

@@ -161,14 +161,6 @@ final class Model {
         return chain;
     }
 
-    boolean stage(int p, int a, int b, int c, int d) {
-        if (p < 0 || p > 127) {
-            return false;
-        }
-        System.arraycopy(new int[] {a, b, c, d}, 0, staged, 4 * p, 4);
-        return true;
-    }
-
     int load() {
         int wrong = Judge.firstWrong(staged);
         if (wrong == 0) {

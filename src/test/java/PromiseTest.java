@@ -43,17 +43,19 @@ public final class PromiseTest {
         checks.due(call, got, want);
     }
 
-    private void cluster(LayeredImage x, int image, int cluster, int... words) {
+    private void due(String call, Calls.Answer got, long want) {
+        checks.due(call + ": " + got.call(), got.got(), want);
+    }
+
+    private void cluster(Calls x, int image, int cluster, int... words) {
         for (int j = 0; j < 8; j++) {
             int p = 8 * cluster + j;
             due("word(" + image + ", " + p + ")", x.word(image, p), j < words.length ? words[j] : 0);
         }
     }
 
-    private void sameAs(String what, LayeredImage x, int image, int[] words) {
-        for (int p = 0; p < 512; p++) {
-            due(what + ": word " + p, x.word(image, p), words[p]);
-        }
+    private void sameAs(String what, Calls x, int image, int[] words) {
+        checks.same(what, x.file(image), words);
     }
 
     private void constants() {
@@ -68,21 +70,19 @@ public final class PromiseTest {
         int[] given = {Integer.MIN_VALUE, -1, 0, 1, 2, 63, 64, 65, Integer.MAX_VALUE};
         int[] sizes = {1, 1, 1, 1, 2, 63, 64, 64, 64};
         for (int i = 0; i < given.length; i++) {
-            LayeredImage x = new LayeredImage(given[i]);
+            Calls x = new Calls(checks, given[i]);
             due("size() of " + given[i], x.size(), sizes[i]);
             due("images()", x.images(), 1);
-            cluster(x, 0, 0, 7001, 1, sizes[i], 3, 1, 0, 0, 0);
-            cluster(x, 0, 1, 2);
-            cluster(x, 0, 2, 1, 1, 1, 1);
-            for (int c = 3; c < 64; c++) {
-                cluster(x, 0, c);
-            }
+            int[] file = new int[512];
+            System.arraycopy(new int[] {7001, 1, sizes[i], 3, 1}, 0, file, 0, 5);
+            System.arraycopy(new int[] {2, 0, 0, 0, 0, 0, 0, 0, 1, 1, 1, 1}, 0, file, 8, 12);
+            sameAs("a new file", x, 0, file);
             due("load() of the empty stage", x.load(), 1);
         }
     }
 
     private void write() {
-        LayeredImage x = new LayeredImage(10);
+        Calls x = new Calls(checks, 10);
         due("write(9, 4)", x.write(9, 4), 2);
         cluster(x, 0, 2, 1, 1, 1, 1, 1, 1);
         cluster(x, 0, 3, 17);
@@ -100,7 +100,7 @@ public final class PromiseTest {
         cluster(x, 0, 7, 0, 37);
         cluster(x, 0, 8, 1, 1);
         cluster(x, 0, 9, 0, 0, 0, 0, 0, 0, 0, 7);
-        int[] before = Files.of(x);
+        int[] before = x.file(0);
         for (int address : new int[] {-1, 80, 81, Integer.MIN_VALUE, Integer.MAX_VALUE}) {
             due("write(" + address + ", 1)", x.write(address, 1), BAD);
         }
@@ -108,7 +108,7 @@ public final class PromiseTest {
     }
 
     private void writeWithSnapshots() {
-        LayeredImage x = new LayeredImage(16);
+        Calls x = new Calls(checks, 16);
         x.write(0, 1);
         x.write(8, 2);
         x.snapshot(9);
@@ -133,7 +133,7 @@ public final class PromiseTest {
     }
 
     private void writeOverImages() {
-        LayeredImage x = new LayeredImage(8);
+        Calls x = new Calls(checks, 8);
         x.write(0, 1);
         x.write(7, 2);
         x.write(8, 3);
@@ -151,7 +151,7 @@ public final class PromiseTest {
     }
 
     private void takingAndRoom() {
-        LayeredImage x = new LayeredImage(64);
+        Calls x = new Calls(checks, 64);
         for (int i = 0; i < 8; i++) {
             due("write " + i, x.write(64 * i, 1), 2);
         }
@@ -167,7 +167,7 @@ public final class PromiseTest {
             due("write", x.write(64 * i + 40, 1), 1);
         }
         due("used()", x.used(), 64);
-        int[] before = Files.of(x);
+        int[] before = x.file(0);
         due("write(360, 1)", x.write(360, 1), FULL);
         due("snapshot(1)", x.snapshot(1), FULL);
         sameAs("after refused calls", x, 0, before);
@@ -180,7 +180,7 @@ public final class PromiseTest {
         due("discard(3)", x.discard(3), 0);
         due("snapshot(1)", x.snapshot(1), 0);
         due("used()", x.used(), 64);
-        before = Files.of(x);
+        before = x.file(0);
         due("write(0, 3) with all shared", x.write(0, 3), FULL);
         due("discard(0) with all shared", x.discard(0), FULL);
         due("discard(1), ZERO already", x.discard(1), 0);
@@ -189,7 +189,7 @@ public final class PromiseTest {
         due("write(512, 0)", x.write(512, 0), BAD);
         sameAs("after refused calls", x, 0, before);
         // The last eighth alone, without counts, has room for seven.
-        LayeredImage y = new LayeredImage(64);
+        Calls y = new Calls(checks, 64);
         for (int n = 0; n < 40; n++) {
             due("write", y.write(64 * (n % 6) + 8 * (n / 6), 1), n < 6 ? 2 : 1);
         }
@@ -201,7 +201,7 @@ public final class PromiseTest {
     }
 
     private void read() {
-        LayeredImage x = new LayeredImage(3);
+        Calls x = new Calls(checks, 3);
         x.write(23, Integer.MIN_VALUE);
         due("read(23)", x.read(23), Integer.MIN_VALUE);
         due("read(22)", x.read(22), 0);
@@ -221,7 +221,7 @@ public final class PromiseTest {
     }
 
     private void discard() {
-        LayeredImage x = new LayeredImage(9);
+        Calls x = new Calls(checks, 9);
         due("discard(0), absent", x.discard(0), 0);
         due("used()", x.used(), 4);
         x.write(0, 1);
@@ -243,7 +243,7 @@ public final class PromiseTest {
         cluster(x, 0, 4, 20, 25);
         cluster(x, 0, 10, 20, 2);
         due("readOld(1, 8)", x.readOld(1, 8), 2);
-        int[] before = Files.of(x);
+        int[] before = x.file(0);
         for (int block : new int[] {-1, 9, Integer.MIN_VALUE, Integer.MAX_VALUE}) {
             due("discard(" + block + ")", x.discard(block), BAD);
         }
@@ -251,7 +251,7 @@ public final class PromiseTest {
     }
 
     private void discardOverImages() {
-        LayeredImage x = new LayeredImage(9);
+        Calls x = new Calls(checks, 9);
         x.write(0, 1);
         x.overlay();
         due("discard(8), absent in both", x.discard(8), 1);
@@ -267,7 +267,7 @@ public final class PromiseTest {
     }
 
     private void snapshot() {
-        LayeredImage x = new LayeredImage(8);
+        Calls x = new Calls(checks, 8);
         x.write(0, 1);
         due("snapshot(-5)", x.snapshot(-5), 0);
         // 6 list, 7 table: the list is taken before the table.
@@ -285,14 +285,14 @@ public final class PromiseTest {
         due("snapshot(MIN)", x.snapshot(Integer.MIN_VALUE), 0);
         due("snapshot(MAX)", x.snapshot(Integer.MAX_VALUE), 0);
         cluster(x, 0, 6, 7, -5, 9, 0, 10, Integer.MIN_VALUE, 11, Integer.MAX_VALUE);
-        int[] before = Files.of(x);
+        int[] before = x.file(0);
         due("snapshot(1), the fifth", x.snapshot(1), MANY);
         due("snapshot(0), the fifth and taken", x.snapshot(0), TAKEN);
         sameAs("after refused snapshots", x, 0, before);
     }
 
     private void revert() {
-        LayeredImage x = new LayeredImage(8);
+        Calls x = new Calls(checks, 8);
         due("revert(0) without one", x.revert(0), BAD);
         x.write(0, 1);
         x.snapshot(4);
@@ -313,14 +313,14 @@ public final class PromiseTest {
         }
         due("read(0)", x.read(0), 1);
         due("revert(4) again", x.revert(4), 0);
-        int[] before = Files.of(x);
+        int[] before = x.file(0);
         due("revert(5)", x.revert(5), BAD);
         sameAs("after a refused revert", x, 0, before);
         due("the snapshot stays", x.snapshot(4), TAKEN);
     }
 
     private void delete() {
-        LayeredImage x = new LayeredImage(8);
+        Calls x = new Calls(checks, 8);
         due("delete(0) without one", x.delete(0), BAD);
         x.write(0, 1);
         x.snapshot(1);
@@ -329,7 +329,7 @@ public final class PromiseTest {
         x.snapshot(3);
         // 6 list, 7 table of 1, 8 counts, 9 leaf, 10 block, 11 and 12 tables of 2 and 3.
         cluster(x, 0, 6, 7, 1, 11, 2, 12, 3);
-        int[] before = Files.of(x);
+        int[] before = x.file(0);
         due("delete(4)", x.delete(4), BAD);
         sameAs("after a refused delete", x, 0, before);
         due("delete(1)", x.delete(1), 0);
@@ -353,7 +353,7 @@ public final class PromiseTest {
     }
 
     private void readOld() {
-        LayeredImage x = new LayeredImage(2);
+        Calls x = new Calls(checks, 2);
         due("readOld(0, 0) without one", x.readOld(0, 0), NONE);
         x.write(0, -1);
         x.snapshot(0);
@@ -380,19 +380,19 @@ public final class PromiseTest {
     }
 
     private void overlay() {
-        LayeredImage x = new LayeredImage(12);
+        Calls x = new Calls(checks, 12);
         x.write(0, 1);
         x.snapshot(3);
-        int[] lower = Files.of(x);
+        int[] lower = x.file(0);
         due("overlay()", x.overlay(), 2);
-        sameAs("the new file", x, 0, Files.of(new LayeredImage(12)));
+        sameAs("the new file", x, 0, new Calls(checks, 12).file(0));
         sameAs("the file below", x, 1, lower);
         due("delete(3): its snapshots are below", x.delete(3), BAD);
         due("snapshot(3)", x.snapshot(3), 0);
         x.delete(3);
         x.write(90, 1);
         due("overlay()", x.overlay(), 3);
-        int[] before = Files.of(x);
+        int[] before = x.file(0);
         due("overlay() above three", x.overlay(), MANY);
         due("images()", x.images(), 3);
         sameAs("after a refused overlay", x, 0, before);
@@ -400,12 +400,12 @@ public final class PromiseTest {
         x.commit();
         x.commit();
         due("overlay() after commits", x.overlay(), 2);
-        sameAs("a file used before", x, 0, Files.of(new LayeredImage(12)));
+        sameAs("a file used before", x, 0, new Calls(checks, 12).file(0));
         due("delete(3)", x.delete(3), BAD);
     }
 
     private void commit() {
-        LayeredImage x = new LayeredImage(9);
+        Calls x = new Calls(checks, 9);
         x.write(0, 1);
         x.write(8, 2);
         x.snapshot(6);
@@ -447,14 +447,14 @@ public final class PromiseTest {
     }
 
     private void commitRefused() {
-        LayeredImage x = new LayeredImage(4);
+        Calls x = new Calls(checks, 4);
         due("commit() of one image", x.commit(), BAD);
         x.snapshot(1);
         due("commit() of one image with a snapshot", x.commit(), BAD);
         x.overlay();
         x.snapshot(2);
         x.write(0, 1);
-        int[] before = Files.of(x);
+        int[] before = x.file(0);
         due("commit() with a snapshot", x.commit(), TAKEN);
         due("images()", x.images(), 2);
         sameAs("after a refused commit", x, 0, before);
@@ -464,8 +464,8 @@ public final class PromiseTest {
     }
 
     /** Fills a new file to 62 clusters: 7 count clusters more, 8 leaves, 43 blocks. */
-    private LayeredImage almostFull() {
-        LayeredImage x = new LayeredImage(64);
+    private Calls almostFull() {
+        Calls x = new Calls(checks, 64);
         for (int i = 0; i < 8; i++) {
             for (int j = 0; j < 5; j++) {
                 x.write(64 * i + 8 * j, 1);
@@ -479,8 +479,8 @@ public final class PromiseTest {
     }
 
     private void commitWithoutRoom() {
-        LayeredImage x = almostFull();
-        int[] lower = Files.of(x);
+        Calls x = almostFull();
+        int[] lower = x.file(0);
         x.overlay();
         for (int i = 0; i < 5; i++) {
             x.discard(i);
@@ -488,7 +488,7 @@ public final class PromiseTest {
         for (int i = 3; i < 6; i++) {
             x.write(64 * i + 40, 2);
         }
-        int[] upper = Files.of(x);
+        int[] upper = x.file(0);
         due("commit() of three more: what comes free is no room", x.commit(), FULL);
         due("images()", x.images(), 2);
         sameAs("the upper file", x, 0, upper);
@@ -496,7 +496,7 @@ public final class PromiseTest {
     }
 
     private void commitFillsTheLastCluster() {
-        LayeredImage x = almostFull();
+        Calls x = almostFull();
         x.overlay();
         x.discard(1);
         x.discard(0);
@@ -513,7 +513,7 @@ public final class PromiseTest {
 
     /** Below stands a new file with a snapshot: 58 free, of which 7 become count clusters. */
     private void commitCountsCountClusters() {
-        LayeredImage x = new LayeredImage(64);
+        Calls x = new Calls(checks, 64);
         x.snapshot(1);
         x.overlay();
         for (int n = 0; n < 44; n++) {
@@ -528,8 +528,8 @@ public final class PromiseTest {
     }
 
     /** A full file with a snapshot, all its leaves shared, none for the last eight blocks. */
-    private LayeredImage full() {
-        LayeredImage x = new LayeredImage(64);
+    private Calls full() {
+        Calls x = new Calls(checks, 64);
         for (int n = 0; n < 44; n++) {
             x.write(64 * (n % 7) + 8 * (n / 7), 1);
         }
@@ -540,7 +540,7 @@ public final class PromiseTest {
     }
 
     private void commitIntoFullFile() {
-        LayeredImage x = full();
+        Calls x = full();
         due("commit() of nothing", x.commit(), 0);
         x = full();
         x.discard(56);
@@ -556,9 +556,9 @@ public final class PromiseTest {
     }
 
     private void growAndSize() {
-        LayeredImage x = new LayeredImage(7);
+        Calls x = new Calls(checks, 7);
         x.write(55, 1);
-        int[] before = Files.of(x);
+        int[] before = x.file(0);
         for (int size : new int[] {7, 6, 0, -1, 65, Integer.MIN_VALUE, Integer.MAX_VALUE}) {
             due("grow(" + size + ")", x.grow(size), BAD);
         }
@@ -577,7 +577,7 @@ public final class PromiseTest {
     }
 
     private void images() {
-        LayeredImage x = new LayeredImage(7);
+        Calls x = new Calls(checks, 7);
         due("images()", x.images(), 1);
         x.overlay();
         due("images()", x.images(), 2);
@@ -585,13 +585,13 @@ public final class PromiseTest {
         due("images()", x.images(), 3);
         x.commit();
         due("images()", x.images(), 2);
-        Files.stage(x, Files.of(new LayeredImage(5)));
+        x.stageAll(new Calls(checks, 5).file(0));
         due("load()", x.load(), 0);
         due("images()", x.images(), 1);
     }
 
     private void used() {
-        LayeredImage x = new LayeredImage(64);
+        Calls x = new Calls(checks, 64);
         due("used()", x.used(), 4);
         x.write(0, 1);
         due("used()", x.used(), 6);
@@ -604,7 +604,7 @@ public final class PromiseTest {
     }
 
     private void word() {
-        LayeredImage x = new LayeredImage(1);
+        Calls x = new Calls(checks, 1);
         x.overlay();
         x.grow(2);
         due("word(0, 2)", x.word(0, 2), 2);
@@ -620,41 +620,38 @@ public final class PromiseTest {
     }
 
     private void stage() {
-        LayeredImage x = new LayeredImage(1);
+        Calls x = new Calls(checks, 1);
         for (int p : new int[] {-1, 128, Integer.MIN_VALUE, Integer.MAX_VALUE}) {
-            checks.due("stage(" + p + ")", x.stage(p, 1, 1, 1, 1), false);
+            due("stage(" + p + ")", x.stage(p, 1, 1, 1, 1), 0);
         }
-        int[] words = Files.of(new LayeredImage(33));
-        for (int p = 0; p < 128; p++) {
-            checks.due("stage(" + p + ")", x.stage(p, words[4 * p], words[4 * p + 1],
-                words[4 * p + 2], words[4 * p + 3]), true);
-        }
+        int[] words = new Calls(checks, 33).file(0);
+        x.stageAll(words);
         due("size(): the stage is not the file", x.size(), 1);
         due("load()", x.load(), 0);
         due("size()", x.size(), 33);
         x.write(0, 1);
         due("load() again: the stage has stayed", x.load(), 0);
         due("read(0)", x.read(0), 0);
-        checks.due("stage(127, 0, 0, 0, 1)", x.stage(127, 0, 0, 0, 1), true);
+        due("stage(127, 0, 0, 0, 1)", x.stage(127, 0, 0, 0, 1), 1);
         due("load()", x.load(), 6);
         due("load() again: the stage has stayed", x.load(), 6);
     }
 
     private void load() {
-        LayeredImage x = new LayeredImage(9);
+        Calls x = new Calls(checks, 9);
         x.write(0, 1);
         x.write(64, 2);
         x.snapshot(1);
         x.overlay();
         x.write(0, 5);
-        int[] words = Files.of(new LayeredImage(3));
+        int[] words = new Calls(checks, 3).file(0);
         words[0] = 7000;
-        Files.stage(x, words);
+        x.stageAll(words);
         due("load()", x.load(), 1);
         due("images()", x.images(), 2);
         due("read(0): nothing has changed", x.read(0), 5);
         words[0] = 7001;
-        Files.stage(x, words);
+        x.stageAll(words);
         due("load()", x.load(), 0);
         due("images()", x.images(), 1);
         due("size()", x.size(), 3);

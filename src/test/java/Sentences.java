@@ -46,23 +46,15 @@ abstract class Sentences {
             for (int image = 0; image < 3; image++) {
                 int[] due = file(checks, size, image, calls);
                 int[] got = file(checks, size, image, calls.andThen(refused));
-                for (int p = 0; p < 512; p++) {
-                    checks.due("word(" + image + ", " + p + ") after it", got[p], due[p]);
-                }
+                checks.same("file " + image + " after it", got, due);
             }
         });
     }
 
-    /** The words of a file after some calls, a quarter of them from each of four objects. */
+    /** The words of a file after some calls. */
     static int[] file(Checks checks, int size, int image, Consumer<Calls> calls) {
-        int[] words = new int[512];
-        for (int p = 0; p < 512; p += 128) {
-            Calls x = new Calls(checks, size);
-            calls.accept(x);
-            for (int i = p; i < p + 128; i++) {
-                words[i] = (int) x.word(image, i).got();
-            }
-        }
-        return words;
+        Calls x = new Calls(checks, size);
+        calls.accept(x);
+        return x.file(image);
     }
 }

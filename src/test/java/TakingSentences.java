@@ -1,3 +1,5 @@
+import java.util.Arrays;
+
 /** The terms from taking on: room, the new file, the chain, refused calls and the constants. */
 final class TakingSentences extends Sentences {
     TakingSentences() {
@@ -221,18 +223,12 @@ final class TakingSentences extends Sentences {
     private void newFile() {
         says("A NEW file of a size: the header, the count table in cluster 1, a count cluster for "
             + "the clusters 0 .. 7 in cluster 2, the active table in cluster 3; nothing else.");
-        test("every word, of the least size", checks -> {
-            int[] words = file(checks, 1, 0, x -> { });
-            for (int p = 0; p < 512; p++) {
-                checks.due("word(0, " + p + ")", words[p], newWord(p, 1));
-            }
-        }).broken("void format(", "put(1, 0, 2);", "put(1, 0, 2);\n            put(3, 1, 2);");
-        test("every word, of the greatest size", checks -> {
-            int[] words = file(checks, 64, 0, x -> { });
-            for (int p = 0; p < 512; p++) {
-                checks.due("word(0, " + p + ")", words[p], newWord(p, 64));
-            }
-        }).broken("void format(", "cluster <= 3", "cluster <= 4");
+        test("every word, of the least size", checks ->
+            checks.same("the file", file(checks, 1, 0, x -> { }), newWords(1)))
+            .broken("void format(", "put(1, 0, 2);", "put(1, 0, 2);\n            put(3, 1, 2);");
+        test("every word, of the greatest size", checks ->
+            checks.same("the file", file(checks, 64, 0, x -> { }), newWords(64)))
+            .broken("void format(", "cluster <= 3", "cluster <= 4");
         test("every word, where a file has been before", checks -> {
             int[] words = file(checks, 3, 0, x -> {
                 x.overlay().is(2);
@@ -242,16 +238,14 @@ final class TakingSentences extends Sentences {
                 x.commit().is(3);
                 x.overlay().is(2);
             });
-            for (int p = 0; p < 512; p++) {
-                checks.due("word(0, " + p + ")", words[p], newWord(p, 3));
-            }
+            checks.same("the file", words, newWords(3));
         }).broken("void format(", "words[i] = 0;", "words[i] = words[i];")
             .broken("void format(", "i < FILE_WORDS", "i < EIGHT * 7");
     }
 
-    private static int newWord(int p, int size) {
+    private static int[] newWords(int size) {
         int[] first = {7001, 1, size, 3, 1, 0, 0, 0, 2, 0, 0, 0, 0, 0, 0, 0, 1, 1, 1, 1};
-        return p < first.length ? first[p] : 0;
+        return Arrays.copyOf(first, 512);
     }
 
     private void chain() {
@@ -283,9 +277,7 @@ final class TakingSentences extends Sentences {
                 x.snapshot(3).is(0);
                 x.grow(64).is(0);
             });
-            for (int p = 0; p < 512; p++) {
-                checks.due("word(1, " + p + ")", after[p], before[p]);
-            }
+            checks.same("the file below", after, before);
         }).broken("int dropBlock(", "makeZero(block);",
             "makeZero(block);\n            if (below != null) { below.file.put(63, 7, 1); }");
     }
@@ -502,7 +494,8 @@ final class TakingSentences extends Sentences {
             x.delete(0).is(BAD);
             x.grow(2).is(BAD);
             x.commit().is(BAD);
-        }).broken("", "BAD = -1", "BAD = -5");
+        }).broken("public int write(", ": BAD;", ": MANY;")
+            .broken("public int grow(", "return BAD;", "return FULL;");
         constant("BAD", BAD);
         says("`FULL = -2`: There is no room.");
         on("a write, a discard and a snapshot without room", 64, x -> {
@@ -511,7 +504,8 @@ final class TakingSentences extends Sentences {
             x.write(0, 0).is(FULL);
             x.discard(0).is(FULL);
             x.snapshot(1).is(FULL);
-        }).broken("", "FULL = -2", "FULL = -6");
+        }).broken("int putWord(", "return FULL;", "return BAD;")
+            .broken("int addSnapshot(", "return FULL;", "return MANY;");
         constant("FULL", FULL);
         says("`MANY = -3`: No more of these.");
         on("a fifth snapshot, a fourth image", 2, x -> {
@@ -522,7 +516,8 @@ final class TakingSentences extends Sentences {
             x.overlay().is(2);
             x.overlay().is(3);
             x.overlay().is(MANY);
-        }).broken("", "MANY = -3", "MANY = -7");
+        }).broken("int addSnapshot(", "return MANY;", "return FULL;")
+            .broken("public int overlay(", "return MANY;", "return BAD;");
         constant("MANY", MANY);
         says("`TAKEN = -4`: Snapshots stand in the way.");
         on("a snapshot of that name, a commit of snapshots", 2, x -> {
@@ -530,7 +525,8 @@ final class TakingSentences extends Sentences {
             x.snapshot(0).is(0);
             x.snapshot(0).is(TAKEN);
             x.commit().is(TAKEN);
-        }).broken("", "TAKEN = -4", "TAKEN = -8");
+        }).broken("int addSnapshot(", "return TAKEN;", "return BAD;")
+            .broken("public int commit(", "return TAKEN;", "return MANY;");
         constant("TAKEN", TAKEN);
         says("`NONE = 4294967296L`: What no word is.");
         on("not even the words furthest out", 1, x -> {
@@ -542,7 +538,7 @@ final class TakingSentences extends Sentences {
             x.readOld(0, 1).is(MAX);
             x.readOld(0, 2).is(-1);
             x.readOld(1, 0).is(NONE);
-        }).broken("", "NONE = 4294967296L", "NONE = 4294967295L")
+        }).broken("public long readOld(", "return NONE;", "return BAD;")
             .broken("public long readOld(", "return top.shown(top.snapshotTable(number), address);",
                 "return top.shown(top.snapshotTable(number), address) & 4294967295L;");
         constant("NONE", NONE);
