@@ -33,6 +33,7 @@ public final class FaceTest {
             CHECKS.hold(other + " is static", Modifier.isStatic(other.getModifiers()));
             CHECKS.hold(other + " is not to be seen",
                 !Modifier.isPublic(other.getModifiers()) && !Modifier.isProtected(other.getModifiers()));
+            CHECKS.hold(other + " holds no class", other.getDeclaredClasses().length == 0);
             fields(other);
             names(program, other);
         }
@@ -78,9 +79,8 @@ public final class FaceTest {
         int own = 0;
         for (Field field : type.getDeclaredFields()) {
             if (Modifier.isStatic(field.getModifiers())) {
-                Class<?> kind = field.getType();
                 CHECKS.hold(field + " is a constant", Modifier.isFinal(field.getModifiers())
-                    && (kind.isPrimitive() || kind == String.class || kind.isArray() || kind.isEnum()));
+                    && (field.getType().isPrimitive() || field.getType() == String.class));
             } else {
                 own++;
             }
@@ -88,13 +88,12 @@ public final class FaceTest {
         CHECKS.hold(type + " has twenty fields at most", own <= 20);
     }
 
-    /** Rule 1: no private method bears the name of one of the face. */
+    /** Rule 1: no other method bears the name of one of the face. */
     private static void names(Class<?> program, Class<?> type) {
         for (Method method : type.getDeclaredMethods()) {
             for (Method face : program.getMethods()) {
                 CHECKS.hold(method + " has a name of its own",
-                    !Modifier.isPrivate(method.getModifiers())
-                    || !method.getName().equals(face.getName()));
+                    method.equals(face) || !method.getName().equals(face.getName()));
             }
             CHECKS.hold(method + " takes seven at most", method.getParameterCount() <= 7);
         }

@@ -2,19 +2,19 @@ import java.lang.management.ManagementFactory;
 import java.util.function.Consumer;
 
 /**
- * What an object and 512 calls make. All of it stays in one room, of some
- * 600,000 objects and arrays with 7.3 million fields and elements in all: an
- * object has no less than 12 bytes and an element no less than one, so a run
- * that makes no more than 7,200,000 bytes has room for sure.
+ * What 512 calls make: next to nothing, for all rows are made in the constructor,
+ * for a mix of calls and for each kind of call alone.
  */
 public final class RoomTest {
     private static final int CALLS = 512;
-    private static final int RUNS = 10;
-    private static final long MOST_BYTES_A_RUN = 7_200_000;
+    private static final int RUNS = 40;
+    private static final long MOST_BYTES_A_RUN = 20_000;
+    private static final long MOST_BYTES_AN_OBJECT = 20_000;
 
     private static final Checks CHECKS = new Checks("RoomTest");
 
     public static void main(String[] args) {
+        mix();
         run("write", x -> x.write(300, 5));
         run("write, BAD", x -> x.write(-1, 5));
         run("read", x -> x.read(300));
@@ -34,6 +34,7 @@ public final class RoomTest {
         run("word", x -> x.word(0, 511));
         run("stage", x -> x.stage(127, 0, 0, 0, 0));
         run("load", x -> x.load());
+        object();
         CHECKS.end();
     }
 
@@ -42,16 +43,55 @@ public final class RoomTest {
     private static void run(String name, Consumer<LayeredImage>... calls) {
         long least = Long.MAX_VALUE;
         for (int i = 0; i < RUNS; i++) {
-            long before = allocated();
             LayeredImage image = new LayeredImage(64);
+            long before = allocated();
             int made = prepare(image);
             for (int call = 0; made < CALLS; call++, made++) {
                 calls[call % calls.length].accept(image);
             }
             least = Math.min(least, allocated() - before);
         }
-        CHECKS.hold(name + ": an object and its calls make " + least + " bytes",
-            least <= MOST_BYTES_A_RUN);
+        CHECKS.hold(name + ": 512 calls make " + least + " bytes", least < MOST_BYTES_A_RUN);
+    }
+
+    private static void object() {
+        long before = allocated();
+        LayeredImage image = new LayeredImage(64);
+        long made = allocated() - before;
+        CHECKS.hold("an object has " + made + " bytes", made < MOST_BYTES_AN_OBJECT);
+        CHECKS.due("size()", image.size(), 64);
+    }
+
+    private static void mix() {
+        long least = Long.MAX_VALUE;
+        for (int i = 0; i < RUNS; i++) {
+            LayeredImage image = new LayeredImage(64);
+            long before = allocated();
+            mixed(image);
+            least = Math.min(least, allocated() - before);
+        }
+        CHECKS.hold("512 mixed calls make " + least + " bytes", least < MOST_BYTES_A_RUN);
+    }
+
+    private static void mixed(LayeredImage image) {
+        for (int i = 0; i < 32; i++) {
+            image.write(16 * i, i);
+            image.snapshot(i);
+            image.write(16 * i, i + 1);
+            image.revert(i);
+            image.delete(i);
+            image.overlay();
+            image.discard(i);
+            image.write(64, i);
+            image.overlay();
+            image.write(0, i);
+            image.commit();
+            image.commit();
+            image.readOld(i, 7);
+            image.stage(i, i, i, i, i);
+            image.load();
+            image.used();
+        }
     }
 
     private static int prepare(LayeredImage image) {
